@@ -1878,13 +1878,13 @@ public final class BlazedPath {
         private static final int BLAZE_DAYS = 60;
         private static final int WIDTHS = 4;
         private static final int SPACINGS = 6;
+        private static final int GAINS = 32;
         private static final int STATES = Country.KINDS * WIDTHS * (MOST_GROWN + 1);
 
         private final Country country;
         private final Law law;
-        // what the law answered for a kind, a width and a growth, and on which of the days passed
-        private final int[] gains = new int[STATES];
-        private final int[] askedOn = new int[STATES];
+        // what the law answered for a kind, a width and a growth: GAINS times which day that was, and the gain
+        private final int[] asked = new int[STATES];
         private int daysPassed;
 
         int planMinutes;
@@ -1926,11 +1926,10 @@ public final class BlazedPath {
             if (index < 0 || index >= STATES) {
                 return 0;
             }
-            if (askedOn[index] != daysPassed) {
-                askedOn[index] = daysPassed;
-                gains[index] = law.growing(kind, wide, grown, trip.day);
+            if (asked[index] / GAINS != daysPassed) {
+                asked[index] = GAINS * daysPassed + law.growing(kind, wide, grown, trip.day);
             }
-            return gains[index];
+            return asked[index] % GAINS;
         }
 
         void planPath(Trip trip, int kind, int cells, int days) {
