@@ -406,6 +406,7 @@ public final class PromiseTest {
         BlazedPath x = party("c1(1=1)");
         due("width 0", x.width(0), false);
         due("width 5", x.width(5), false);
+        due("width 1", x.width(1), true);
         due("width", x.count(9), 1);
         due("width 4", x.width(4), true);
         due("width", x.count(9), 4);
@@ -464,8 +465,23 @@ public final class PromiseTest {
         due("marks", x.path(3, 3), 3);
         due("stick", x.path(3, 4), 1);
         due("the minute", x.count(1), 38);
+        ordersBounds();
         ordersEdges();
         ordersDark();
+    }
+
+    private static void ordersBounds() {
+        BlazedPath x = new BlazedPath();
+        tell(x, times("x", 81));
+        due("orders of 81 bytes", x.orders(81), -1);
+        due("tried of 81 bytes", x.tried(81, 0), -1);
+        due("turn of 81 bytes", x.turn(81, 0), -1);
+        due("the tape stays", x.count(7), 100);
+        due("tried of 80 bytes", x.tried(80, 2), 80);
+        tell(x, times("x", 80));
+        due("turn of 80 bytes", x.turn(80, 0), 80);
+        tell(x, times("x", 80));
+        due("orders of 80 bytes", x.orders(80), 1);
     }
 
     private static void ordersEdges() {
@@ -719,6 +735,8 @@ public final class PromiseTest {
         due("what -1", x.path(5, -1), -1);
         due("place 6", x.path(6, 0), -1);
         due("place -1", x.path(-1, 0), -1);
+        due("place -1", x.path(-1, 1), -1);
+        due("place 100", x.path(100, 4), -1);
         due("first is no fork", x.path(0, 5), 0);
         due("first is not blind", x.path(0, 6), 0);
         orders(x, "sbxn");
@@ -818,6 +836,10 @@ public final class PromiseTest {
         due("of like ones the lowest", x.camp(0), 3);
         x.start(24);
         due("here", x.camp(0), 24);
+        forest(x, rows("sj11", "j12", "=", "=", "=", "=", "=", "=", "=", "=", "=", "="));
+        due("cell 0", x.camp(0), 0);
+        forest(x, rows("j3s9", "j12", "sj11", "=", "j12", "=", "=", "=", "=", "=", "=", "="));
+        due("here again", x.camp(0), 24);
         due("here", x.camp(1), 0);
         forest(x, rows("jbs10", "b12", "j12", "=", "=", "=", "=", "=", "=", "=", "=", "s12"));
         x.start(0);
@@ -1064,6 +1086,7 @@ public final class PromiseTest {
         due("2", sights(x, "2", 1), 2);
         due("f", sights(x, "f", 0), 3);
         due("f lowest", sights(x, "f", 1), 1);
+        due("m lowest and highest", sights(x, "m", 2), 0);
         due("f highest", sights(x, "f", 2), 4);
         due("row", sights(x, "ff2fm", 0), 1);
         due("row from", sights(x, "ff2fm", 1), 4);
