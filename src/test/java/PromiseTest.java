@@ -647,6 +647,12 @@ public final class PromiseTest {
         for (int p = 0; p < 12; p++) {
             due("fork at " + p, y.path(p, 5), forks[p]);
         }
+        BlazedPath corner = party("c1(1=1)");
+        forest(corner, rows("oj11", "j12", "=", "=", "=", "=", "=", "=", "=", "=", "=", "="));
+        corner.start(13);
+        orders(corner, "wn");
+        due("by cell 0", corner.path(1, 5), 1);
+        due("one of two", corner.back(1), 1);
         BlazedPath z = party("c1(1=1)");
         orders(z, "2e");
         due("no fork", z.path(1, 5), 0);
@@ -709,6 +715,13 @@ public final class PromiseTest {
         due("one step", y.home(), 3);
         due("place", y.count(3), 3);
         due("two draws", y.count(8), (int) ((25173L * 13849 + 13849) % 65536));
+        // X is 39022: 2 is not below 2
+        BlazedPath v = openPath();
+        v.light(25);
+        due("a draw like d is right", v.home(), 3);
+        BlazedPath u = party("c5(1=1);v9-f*8(1=1)");
+        orders(u, "ebee");
+        due("each step onto the place ahead", u.home(), 9 + 1 + 9);
         // no draws where no fork is blind
         BlazedPath z = party("c5(1=1);v3(1=1);d10(1=1)");
         orders(z, "3e");
@@ -1098,6 +1111,11 @@ public final class PromiseTest {
         due("longer than the path", sights(x, "ff2fm.", 0), 0);
         due("out face is no mark", orders(x, "o"), 2);
         due("out face is no mark", sights(x, "f", 0), 3);
+        BlazedPath y = party("c1(1=1)");
+        orders(y, "beebe");
+        due("lowest of two", sights(y, "m", 1), 0);
+        due("highest of two", sights(y, "m", 2), 2);
+        due("two", sights(y, "m", 0), 2);
         due("fault", sights(x, "fx", 0), -1001);
         due("fault", sights(x, " ", 2), -1000);
         due("fault", sights(x, "m1", 0), -1001);
