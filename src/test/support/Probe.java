@@ -130,14 +130,14 @@ class Probe {
     static BlazedPath party(String law) {
         BlazedPath x = new BlazedPath();
         x.person(0, 5);
-        law(x, law);
+        due("the law " + law, one(law(x, law) > 0), 1);
         return x;
     }
 
     /** A party in a forest of such rows, at its cell 0. */
     static BlazedPath party(String law, String forest) {
         BlazedPath x = party(law);
-        forest(x, forest);
+        due("the forest " + forest, one(forest(x, forest) >= 0), 1);
         return x;
     }
 
