@@ -43,7 +43,7 @@ public final class ForestBoundsTest extends Probe {
         orders(d, "e");
         d.home();
         due("the first DRAW's X", d.count(8), 25173 + 13849);
-        sentence("Terms: WIDTH 1, LIGHT 600, THE MINUTE 0, THE DAY 0 at first; the tape has none; nothing is KEPT");
+        sentence("Promise 1, Terms: WIDTH 1, LIGHT 600, THE MINUTE 0, THE DAY 0 at first; the tape has none; nothing is KEPT");
         BlazedPath n = new BlazedPath();
         due("WIDTH", n.count(9), 1);
         due("LIGHT", n.count(10), 600);
@@ -159,7 +159,7 @@ public final class ForestBoundsTest extends Probe {
     }
 
     private static void forestRows() {
-        sentence("Terms: a letter of each KIND (o t j b r s p: 0 to 6), CELL 12 y and x");
+        sentence("Promise 3, Terms: a letter of each KIND (o t j b r s p: 0 to 6), CELL 12 y and x");
         BlazedPath x = new BlazedPath();
         due("kinds", forest(x, rows("otjbrspotjbr", "=", "j11o", "o11j", "=", "=", "=", "=", "=", "=", "=", "p12")), 144 - 4 - 11 - 8);
         for (int cell = 0; cell < 24; cell++) {
@@ -171,7 +171,7 @@ public final class ForestBoundsTest extends Probe {
         due("x 11, y 10", x.count(231), 2);
         due("x 0, y 11", x.count(232), 6);
         due("x 11, y 11", x.count(243), 6);
-        sentence("Terms: FAULT 1: what can't stand there: all bytes but the letters at a ROW's beginning");
+        sentence("Promise 3, Terms: FAULT 1: what can't stand there: all bytes but the letters at a ROW's beginning");
         for (int sign = 0; sign < 256; sign++) {
             boolean isLetter = "otjbrsp".indexOf(sign) >= 0;
             due("byte " + sign + " first", forest(new BlazedPath(), bytes(sign)), isLetter ? -1001 : -1000);
@@ -181,7 +181,7 @@ public final class ForestBoundsTest extends Probe {
             int want = sign == '0' ? -3001 : goesOn ? -1002 : -1001;
             due("byte " + sign + " behind a letter", forest(new BlazedPath(), "j" + bytes(sign)), want);
         }
-        sentence("Terms: = (as the ROW ahead of it; not the first one)");
+        sentence("Promise 3, Terms: = (as the ROW ahead of it; not the first one)");
         due("= first", forest(new BlazedPath(), "=" + "/=".repeat(11)), -1000);
         due("= second", forest(new BlazedPath(), OPEN), 144);
         due("= last", forest(new BlazedPath(), "o12" + "/j12".repeat(10) + "/="), 12);
@@ -190,7 +190,7 @@ public final class ForestBoundsTest extends Probe {
         due("= behind =", forest(new BlazedPath(), "j12/=="), -1005);
         due("a letter behind =", forest(new BlazedPath(), "j12/=j"), -1005);
         due("a digit behind =", forest(new BlazedPath(), "j12/=1"), -1005);
-        sentence("Terms: 12 ROWS with a / between two");
+        sentence("Promise 3, Terms: 12 ROWS with a / between two");
         due("11 ROWS", forest(new BlazedPath(), "j12" + "/=".repeat(10)), -1023);
         due("11 ROWS and a /", forest(new BlazedPath(), "j12" + "/=".repeat(10) + "/"), -1024);
         due("13 ROWS", forest(new BlazedPath(), JUNGLE + "/="), -1025);
@@ -198,7 +198,7 @@ public final class ForestBoundsTest extends Probe {
         due("a / first", forest(new BlazedPath(), "/" + JUNGLE), -1000);
         due("two /", forest(new BlazedPath(), "j12//="), -1004);
         due("no /", forest(new BlazedPath(), "j12 ="), -1003);
-        sentence("Terms: FAULT 1: a ROW's end ahead of its 12th CELL");
+        sentence("Promise 3, Terms: FAULT 1: a ROW's end ahead of its 12th CELL");
         due("a / behind 11", forest(new BlazedPath(), "j11/"), -1003);
         due("the end behind 11", forest(new BlazedPath(), "j11"), -1003);
         due("the end behind 0", forest(new BlazedPath(), "j12/"), -1004);
@@ -208,7 +208,7 @@ public final class ForestBoundsTest extends Probe {
     }
 
     private static void forestRuns() {
-        sentence("Terms: a number of one or two digits (so many; else 1)");
+        sentence("Promise 3, Terms: a number of one or two digits (so many; else 1)");
         due("1", forest(new BlazedPath(), forestOf("o1j11", "j12")), 1);
         due("none is 1", forest(new BlazedPath(), forestOf("oj11", "j12")), 1);
         due("01", forest(new BlazedPath(), forestOf("o01j11", "j12")), 1);
@@ -216,11 +216,11 @@ public final class ForestBoundsTest extends Probe {
         due("9", forest(new BlazedPath(), forestOf("o9j3", "j12")), 9);
         due("10", forest(new BlazedPath(), forestOf("o10j2", "j12")), 10);
         due("12", forest(new BlazedPath(), forestOf("o12", "j12")), 12);
-        sentence("Terms: a third digit can't stand there");
+        sentence("Promise 3, Terms: a third digit can't stand there");
         due("j123", forest(new BlazedPath(), "j123"), -1003);
         due("j011", forest(new BlazedPath(), "j011"), -1003);
         due("j100", forest(new BlazedPath(), "j100"), -1003);
-        sentence("Terms: FAULT 3: a number 0, at its first digit (asked when its digits end, behind two at the latest)");
+        sentence("Promise 3, Terms: FAULT 3: a number 0, at its first digit (asked when its digits end, behind two at the latest)");
         due("0 and the end", forest(new BlazedPath(), "j0"), -3001);
         due("0 and a letter", forest(new BlazedPath(), "j0o"), -3001);
         due("0 and what can't stand there", forest(new BlazedPath(), "j0!"), -3001);
@@ -229,7 +229,7 @@ public final class ForestBoundsTest extends Probe {
         due("000", forest(new BlazedPath(), "j000"), -3001);
         due("in a later RUN", forest(new BlazedPath(), "j11o0"), -3004);
         due("in a later ROW", forest(new BlazedPath(), "j12/=/o00"), -3007);
-        sentence("Terms: FAULT 6: a RUN by which there are more than 12 CELLS in a ROW, at its letter");
+        sentence("Promise 3, Terms: FAULT 6: a RUN by which there are more than 12 CELLS in a ROW, at its letter");
         due("13", forest(new BlazedPath(), "j13"), -6000);
         due("99", forest(new BlazedPath(), "j99"), -6000);
         due("12 and 1", forest(new BlazedPath(), "j12o"), -6003);
@@ -241,10 +241,10 @@ public final class ForestBoundsTest extends Probe {
         due("13 and what can't stand there", forest(new BlazedPath(), "j13!"), -6000);
         due("13 and a digit", forest(new BlazedPath(), "j130"), -6000);
         due("12, a letter, and what can't stand there", forest(new BlazedPath(), "j12o!"), -6003);
-        sentence("Terms: FAULT 6 behind 3");
+        sentence("Promise 3, Terms: FAULT 6 behind 3");
         due("a 13th CELL of 0", forest(new BlazedPath(), "j12o0"), -3004);
         due("a 13th CELL of 00", forest(new BlazedPath(), "j12o00"), -3004);
-        sentence("Terms: FAULTS, the first from the left");
+        sentence("Promise 3, Terms: FAULTS, the first from the left");
         due("6 ahead of 1", forest(new BlazedPath(), "j13/!"), -6000);
         due("1 ahead of 6", forest(new BlazedPath(), "j!j13"), -1001);
         due("3 ahead of 6", forest(new BlazedPath(), "j0/j13"), -3001);
@@ -272,7 +272,7 @@ public final class ForestBoundsTest extends Probe {
         due("no MARK", x.path(0, 3), 0);
         due("no STICK", x.path(0, 4), 0);
         due("no FORK", x.path(0, 5), 0);
-        sentence("Terms: THE MINUTE, THE DAY, TIRED stay");
+        sentence("Promise 3, Terms: THE MINUTE, THE DAY, TIRED stay");
         due("THE MINUTE", x.count(1), 104);
         due("THE DAY", x.count(0), 2);
         due("TIRED", x.personIs(4, 1), 99);
@@ -281,6 +281,20 @@ public final class ForestBoundsTest extends Probe {
         due("X", x.count(8), 99);
         due("CLAUSES", x.count(6), 4);
         due("cells that were cut can be cut", orders(x, "e"), 1);
+        sentence("Promise 3, Terms: a new PATH: nothing of the one before is on CELLS that are cut anew");
+        BlazedPath w = party("c1(1=1);g5(1=1)");
+        w.width(3);
+        orders(w, "obxeobxeobx");
+        w.days(1);
+        w.width(2);
+        due("forest", forest(w, JUNGLE), 0);
+        orders(w, "2e");
+        for (int p = 0; p < 3; p++) {
+            int[] wants = {p, 0, 2, 0, 0};
+            for (int what = 0; what < 5; what++) {
+                due("path(" + p + ", " + what + ")", w.path(p, what), wants[what]);
+            }
+        }
         sentence("Promise 3: whatever that is: bamboo, too");
         BlazedPath y = party("c7(1=1)");
         y.start(143);
@@ -289,7 +303,7 @@ public final class ForestBoundsTest extends Probe {
         due("its KIND", y.count(243), 3);
         due("shut in", orders(y, "nesw"), 0);
         due("THE PATH", y.count(2), 1);
-        sentence("Terms: nothing is KEPT any more when THE FOREST is read (not by a FAULT)");
+        sentence("Promise 3, Terms: nothing is KEPT any more when THE FOREST is read (not by a FAULT)");
         BlazedPath z = new BlazedPath();
         z.keep();
         due("a fault", forest(z, "j13"), -6000);

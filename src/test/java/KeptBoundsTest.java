@@ -44,7 +44,7 @@ public final class KeptBoundsTest extends Probe {
         orders(x, "e");
         due("undo", x.undo(), true);
         due("the last KEPT", x.count(2), 7);
-        sentence("Terms: KEPT: PEOPLE's TIRED, AHEAD, THE PATH, where THE PARTY is, THE MINUTE, THE DAY, X");
+        sentence("Promise 29, Terms: KEPT: PEOPLE's TIRED, AHEAD, THE PATH, where THE PARTY is, THE MINUTE, THE DAY, X");
         BlazedPath y = party("c5(1=1);v1(1=1);n4(1=1);g3(1=1);d9(1=1)");
         y.person(4, 4);
         orders(y, "e");
@@ -72,11 +72,44 @@ public final class KeptBoundsTest extends Probe {
             }
         }
         due("no place 4", y.path(4, 0), -1);
+        wholePath();
         notKept();
     }
 
+    private static void wholePath() {
+        sentence("Promise 29, Terms: THE PATH with its CELLS, WIDTHS, MARKS, STICKS and what has GROWN, whatever came since");
+        BlazedPath x = party("c1(1=1);g5(1=1);vw*10+q-f(1=1)");
+        x.width(3);
+        x.start(60);
+        orders(x, "obeob");
+        x.days(1);
+        x.width(2);
+        orders(x, "ex");
+        due("keep", x.keep(), 3);
+        x.width(4);
+        x.start(0);
+        orders(x, "xnxnobxnobx");
+        x.days(3);
+        due("v by the new WIDTHS", tried(x, "s", 0), 40 + 15 - 1);
+        due("undo", x.undo(), true);
+        int[][] wants = {{60, 5, 3, 3, 0}, {61, 5, 3, 3, 0}, {62, 0, 2, 0, 1}};
+        for (int p = 0; p < 3; p++) {
+            for (int what = 0; what < 5; what++) {
+                due("path(" + p + ", " + what + ")", x.path(p, what), wants[p][what]);
+            }
+        }
+        due("no place 3", x.path(3, 0), -1);
+        due("v by the old ones", tried(x, "w", 0), 30 + 5 - 1);
+        due("CELLS of the other one can be cut", tried(x, "s", 1), 1);
+        due("its own not", tried(x, "w", 1), 0);
+        due("BACK", x.back(0), 2 * (30 + 5 - 1));
+        due("HOME", x.home(), 2 * (30 + 5 - 1));
+        due("undo", x.undo(), true);
+        due("place", x.count(3), 2);
+    }
+
     private static void notKept() {
-        sentence("Terms: what is not KEPT stays: WIDTH, LIGHT, THE LAW, ARMS, who is told, the tape");
+        sentence("Promise 29, Terms: what is not KEPT stays: WIDTH, LIGHT, THE LAW, ARMS, who is told, the tape");
         BlazedPath x = party("c5(1=1);n4(1=1)");
         orders(x, "e");
         x.keep();
@@ -99,7 +132,7 @@ public final class KeptBoundsTest extends Probe {
         x.check(0);
         due("the new c", orders(x, "e"), 9);
         due("the new WIDTH", x.path(2, 2), 3);
-        sentence("Terms: AHEAD as it was KEPT: nobody; then who is told is AHEAD");
+        sentence("Promise 29, Terms: AHEAD as it was KEPT: nobody; then who is told is AHEAD");
         BlazedPath y = new BlazedPath();
         y.keep();
         y.person(3, 3);
@@ -111,7 +144,7 @@ public final class KeptBoundsTest extends Probe {
         due("planned", y.planned(2, 1, 0, 0), -1);
         due("person", y.person(1, 1), true);
         due("AHEAD", y.count(5), 1);
-        sentence("Terms: nothing is KEPT any more when THE FOREST is read; all else leaves it KEPT");
+        sentence("Promise 29, Terms: nothing is KEPT any more when THE FOREST is read; all else leaves it KEPT");
         BlazedPath z = party("c5(1=1)");
         z.keep();
         z.start(7);
@@ -178,6 +211,10 @@ public final class KeptBoundsTest extends Probe {
         sentence("Promise 30: of fewer places those alone");
         due("the first alone", check(y, 3), -1);
         due("none", y.check(0), -1);
+        sentence("Promise 30: of places that there are not any more 0");
+        due("start", y.start(0), true);
+        due("noughts", check(y, 0, 0, 0), -1);
+        due("what had GROWN there", check(y, 0, 3), 1);
     }
 
     private static int oneUndone() {

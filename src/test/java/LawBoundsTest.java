@@ -38,6 +38,32 @@ public final class LawBoundsTest extends Probe {
         due("no c any more", orders(z, "e"), 0);
         due("no n any more", z.personIs(0, 1), 0);
         due("the new v", orders(z, "w"), 7);
+        again();
+    }
+
+    private static void again() {
+        sentence("Promise 4: in place of the one before: none of its CLAUSES is asked any more");
+        BlazedPath x = party("c5(1=2);c9(1=1);c8(1=1)");
+        due("one CLAUSE of another letter", law(x, "v7(1=1)"), 1);
+        due("no c any more", tried(x, "e", 0), 0);
+        due("three again", law(x, "c5(1=2);c9(1=1);c8(1=1)"), 3);
+        due("the second", tried(x, "e", 0), 9);
+        due("one that does not hold", law(x, "c5(1=2)"), 1);
+        due("none: 0", tried(x, "e", 0), 0);
+        due("a long C", law(x, "c5(1=2&1=1&1=1&1=1|1=1);c6(1=1)"), 2);
+        due("the first", tried(x, "e", 0), 5);
+        due("a short C", law(x, "c4(1=2)"), 1);
+        due("none: 0", tried(x, "e", 0), 0);
+        sentence("Promise 4: 240 bytes again and again, with FAULTS between");
+        x = party("c1(1=1)");
+        for (int i = 0; i < 16; i++) {
+            String sum = "1+".repeat(116) + (10 + i);
+            due("240 bytes", ("cw" + sum.substring(1) + "(k=2)").length(), 240);
+            due("a LAW of 240 bytes", law(x, "cw" + sum.substring(1) + "(k=2)"), 1);
+            due("all of it is reckoned", tried(x, "e", 0), 116 + 10 + i);
+            due("a FAULT at its end", law(x, "c9" + sum.substring(1) + "(k=2"), -1239);
+            due("the LAW before", tried(x, "e", 0), 116 + 10 + i);
+        }
     }
 
     /** For each byte behind a beginning: the fault is at it, or behind it if it can stand there. */
@@ -53,7 +79,7 @@ public final class LawBoundsTest extends Probe {
     }
 
     private static void whatCanStand() {
-        sentence("Terms: LAW, FAULT 1: what can't stand there (the end, too), no blanks");
+        sentence("Promise 4, Terms: LAW, FAULT 1: what can't stand there (the end, too), no blanks");
         String digits = "0123456789";
         String letters = "kwatqfy";
         String signs = "+-*/%";
@@ -80,13 +106,13 @@ public final class LawBoundsTest extends Probe {
         bytesBehind("c1(k=k|", digits + letters + "[(!", -1);
         bytesBehind("c1(1=1)", ";", -1);
         bytesBehind("c1(1=1);", "cvgned", -1);
-        sentence("Terms: each letter of a CLAUSE, and each letter of a FACTOR, in each CLAUSE");
+        sentence("Promise 4, Terms: each letter of a CLAUSE, and each letter of a FACTOR, in each CLAUSE");
         for (char clause : "cvgned".toCharArray()) {
             for (char factor : letters.toCharArray()) {
                 due("" + clause + factor, law(clause + "" + factor + "(" + factor + "=" + factor + ")"), 1);
             }
         }
-        sentence("Terms: FAULT 2: a sixth digit, at it");
+        sentence("Promise 4, Terms: FAULT 2: a sixth digit, at it");
         due("five digits", law("c99999(1=99999)"), 1);
         due("five noughts", law("c00000(1=00000)"), 1);
         due("six", law("c999999(1=1)"), -2006);
@@ -101,13 +127,13 @@ public final class LawBoundsTest extends Probe {
     }
 
     private static void clauses() {
-        sentence("Terms: CLAUSES (16 at most) with a ; between two");
+        sentence("Promise 4, Terms: CLAUSES (16 at most) with a ; between two");
         for (int n = 1; n <= 16; n++) {
             BlazedPath x = new BlazedPath();
             due(n + " CLAUSES", law(x, "c1(1=1)" + ";c1(1=1)".repeat(n - 1)), n);
             due("count(6)", x.count(6), n);
         }
-        sentence("Terms: FAULT 4: a 17th CLAUSE, at its letter (if that can stand there)");
+        sentence("Promise 4, Terms: FAULT 4: a 17th CLAUSE, at its letter (if that can stand there)");
         String sixteen = "c1(1=1)" + ";c1(1=1)".repeat(15);
         for (char letter : "cvgned".toCharArray()) {
             due("a 17th by " + letter, law(sixteen + ";" + letter), -4128);
@@ -127,7 +153,7 @@ public final class LawBoundsTest extends Probe {
     }
 
     private static void open() {
-        sentence("Terms: FAULT 5: a seventh of ( [ ! that are open in one another, at it (the ( of the CLAUSE counts)");
+        sentence("Promise 4, Terms: FAULT 5: a seventh of ( [ ! that are open in one another, at it (the ( of the CLAUSE counts)");
         for (int bits = 0; bits < 64; bits++) {
             for (int square = 0; square <= 6; square++) {
                 StringBuilder b = new StringBuilder("c1(");
@@ -138,14 +164,14 @@ public final class LawBoundsTest extends Probe {
                 due(b.substring(0, 8), law(b.substring(0, 8)), -1008);
             }
         }
-        sentence("Terms: the E of a CLAUSE stands ahead of its (");
+        sentence("Promise 4, Terms: the E of a CLAUSE stands ahead of its (");
         due("six [", law("c[[[[[[1]]]]]](1=1)"), 1);
         due("seven [", law("c[[[[[[[1]]]]]]](1=1)"), -5007);
         due("six in the E, five more in the C", law("c[[[[[[1]]]]]](((((([1=1"), -5020);
         due("six in the E, then the C", law("c[[[[[[1]]]]]]((((((1=1))))))"), 1);
         due("six open and closed, then six", law("c[[[[[[1]]]]]]+[[[[[[1]]]]]](1=1)"), 1);
         due("and a seventh", law("c[[[[[[1]]]]]]+[[[[[[[1"), -5021);
-        sentence("Terms: a ! is open till its TEST ends");
+        sentence("Promise 4, Terms: a ! is open till its TEST ends");
         due("five ! and five !", law("c1(!!!!!1=1&!!!!!1=1|!!!!!1=1)"), 1);
         due("a sixth !", law("c1(!!!!!!1=1)"), -5008);
         due("a sixth behind five that have ended", law("c1(!!!!!1=1&!!!!!!1=1)"), -5017);
@@ -155,12 +181,12 @@ public final class LawBoundsTest extends Probe {
         due("! and ( in turn", law("c1(!(!(!1=1&!1=1)|!1=1))"), 1);
         due("a ! too many in them", law("c1(!(!(!1=1&!!1=1)))"), -5013);
         due("the TEST of a ! is its ( ), behind it all is closed", law("c1(!(1=1)&!!!!!1=1)"), 1);
-        sentence("Terms: what closes is open no more");
+        sentence("Promise 4, Terms: what closes is open no more");
         due("( ) one behind the other", law("c1((((((1=1)))))&(((((1=1))))))"), 1);
         due("[ ] in a C", law("c1([[[[[1]]]]]=[[[[[1]]]]])"), 1);
         due("a sixth [ in a C", law("c1([[[[[1]]]]]=[[[[[[1"), -5020);
         due("a CLAUSE more begins anew", law("c1((((((1=1))))));c1((((((1=1))))))"), 2);
-        sentence("Terms: FAULTS, the first from the left");
+        sentence("Promise 4, Terms: FAULTS, the first from the left");
         due("1 ahead of 5", law("c1(!!!!)!!!"), -1007);
         due("5 ahead of 1", law("c1(!!!!!!)"), -5008);
         due("2 ahead of 5", law("c123456[[[[[[["), -2006);
@@ -175,7 +201,8 @@ public final class LawBoundsTest extends Probe {
         x.light(999);
         forest(x, OPEN);
         law(x, "n20(1=1)");
-        orders(x, "e");
+        // so TIRED that a rest by more than its bound would be seen
+        orders(x, letter == 'e' ? "3e" : "e");
         due("law of " + letter + e, law(x, letter + e + "(1=1)"), 1);
         switch (letter) {
             case 'c':
@@ -189,7 +216,7 @@ public final class LawBoundsTest extends Probe {
                 return x.personIs(0, 1) - 20;
             case 'e':
                 orders(x, ".");
-                return 20 - x.personIs(0, 1);
+                return 60 - x.personIs(0, 1);
             default:
                 return (int) (10 - 10 * x.safe(0) / x.safe(1));
         }
@@ -201,7 +228,7 @@ public final class LawBoundsTest extends Probe {
         for (int i = 0; i < 6; i++) {
             char letter = letters.charAt(i);
             int most = mosts[i];
-            sentence("Terms: " + letter + " (0 to " + most + "): beyond its bounds the bound");
+            sentence("Promise 4, Terms: " + letter + " (0 to " + most + "): beyond its bounds the bound");
             due("-1", value(letter, "0-1"), 0);
             due("0", value(letter, "0"), 0);
             due("1", value(letter, "1"), 1);
@@ -212,7 +239,7 @@ public final class LawBoundsTest extends Probe {
             due("-99999", value(letter, "0-99999"), 0);
             due("the highest int", value(letter, "65536*32768-1"), most);
             due("one above it is the lowest", value(letter, "65536*32768"), 0);
-            sentence("Terms: " + letter + ": none: 0");
+            sentence("Promise 4, Terms: " + letter + ": none: 0");
             String other = letter == 'c' ? "v" : "c";
             BlazedPath x = party(other + "9(1=1);" + letter + "9(1=2)");
             forest(x, OPEN);
@@ -220,7 +247,7 @@ public final class LawBoundsTest extends Probe {
             due("growing", x.days(1), 0);
             due("tired", x.personIs(0, 1), 0);
         }
-        sentence("Terms: what is divided by 0 is REFUSED: an E is 0");
+        sentence("Promise 4, Terms: what is divided by 0 is REFUSED: an E is 0");
         for (String e : new String[] {"5/0", "5%0", "5+1/0", "1/0+5", "5-1%0", "5*[1/0]", "[5+[1%0]]+5", "5/[3-3]", "0/0", "0%0", "5/q"}) {
             due(e, value('c', e), 0);
         }
@@ -236,7 +263,7 @@ public final class LawBoundsTest extends Probe {
     }
 
     private static void thirtyTwoBits() {
-        sentence("Terms: All is reckoned with 32 bits, as the machine does");
+        sentence("Promise 4, Terms: All is reckoned with 32 bits, as the machine does");
         String least = "[65536*32768]";
         due("2147483647 + 1", holds("65536*32768-1+1<0"), true);
         due("-2147483648 - 1", holds(least + "-1>0"), true);
@@ -250,14 +277,14 @@ public final class LawBoundsTest extends Probe {
         due("the lowest times -1", holds(least + "*[0-1]<0"), true);
         due("the lowest and the lowest", holds(least + "+" + least + "=0"), true);
         due("0 less the lowest", holds("0-" + least + "<0"), true);
-        sentence("Terms: / towards 0, % with the sign of what is divided");
+        sentence("Promise 4, Terms: / towards 0, % with the sign of what is divided");
         due("-7 / 2", holds("[0-7]/2=0-3"), true);
         due("7 / -2", holds("7/[0-2]=0-3"), true);
         due("-7 / -2", holds("[0-7]/[0-2]=3"), true);
         due("-7 % 4", holds("[0-7]%4=0-3"), true);
         due("7 % -4", holds("7%[0-4]=3"), true);
         due("-8 % 4", holds("[0-8]%4=0"), true);
-        sentence("Terms: TERMS, FACTORS from the left on");
+        sentence("Promise 4, Terms: TERMS, FACTORS from the left on");
         due("9 - 4 - 3", holds("9-4-3=2"), true);
         due("9 - 4 + 3", holds("9-4+3=8"), true);
         due("100 / 7 * 7", holds("100/7*7=98"), true);
@@ -270,14 +297,14 @@ public final class LawBoundsTest extends Probe {
     }
 
     private static void tests() {
-        sentence("Terms: one of < > =");
+        sentence("Promise 4, Terms: one of < > =");
         due("1 < 1", holds("1<1"), false);
         due("0 < 1", holds("0<1"), true);
         due("1 > 1", holds("1>1"), false);
         due("2 > 1", holds("2>1"), true);
         due("1 = 1", holds("1=1"), true);
         due("1 = 2", holds("1=2"), false);
-        sentence("Terms: PARTS with a | (one must hold), TESTS with an & (all must), !TEST, (C)");
+        sentence("Promise 4, Terms: PARTS with a | (one must hold), TESTS with an & (all must), !TEST, (C)");
         String[] cs = {"1=2|1=2", "1=2|1=1", "1=1|1=2", "1=1&1=1", "1=1&1=2", "1=2&1=1", "1=1|1=1&1=2", "1=2&1=1|1=1", "(1=1|1=1)&1=2",
             "!1=1", "!1=2", "!!1=1", "!!!1=1", "!1=2&1=2", "!(1=2&1=2)", "!(1=1|1=2)", "((1=1))", "1=2|1=2|1=1", "1=1&1=1&1=2", "!1=1|1=1"};
         boolean[] wants = {false, true, true, true, false, false, true, true, false,
@@ -285,17 +312,17 @@ public final class LawBoundsTest extends Probe {
         for (int i = 0; i < cs.length; i++) {
             due(cs[i], holds(cs[i]), wants[i]);
         }
-        sentence("Terms: what is divided by 0 is REFUSED: then a C does not hold");
+        sentence("Promise 4, Terms: what is divided by 0 is REFUSED: then a C does not hold");
         for (String c : new String[] {"1/0=0", "0=1/0", "1%0=0", "!1/0=1", "!(1/0=1)", "1/0=0|1=1", "(1/0=0)|1=1", "1=1&1/0=0", "1=2|1/0=0",
             "1=2|1/0=0|1=1", "(1=1&1/0=0)|1=1", "!!1/0=0", "[1/0]=0", "1/[1/2]=1", "1=1&!1%0=5"}) {
             due(c, holds(c), false);
         }
-        sentence("Terms: Of a C as much is asked, from the left, as matters");
+        sentence("Promise 4, Terms: Of a C as much is asked, from the left, as matters");
         for (String c : new String[] {"1=1|1/0=0", "1=2&1/0=0|1=1", "!(1=2&1/0=0)", "(1=1|1/0=0)&1=1", "1=1|1=1&1/0=0",
             "1=1&(1=1|1%0=0)", "!1=2|1/0=0", "1=2&1/0=0&1/0=0|1=1"}) {
             due(c, holds(c), true);
         }
-        sentence("Terms: of the first CLAUSE of a letter whose C holds the E");
+        sentence("Promise 4, Terms: of the first CLAUSE of a letter whose C holds the E");
         due("the first", orders(party("c3(1=1);c4(1=1)"), "e"), 3);
         due("the second", orders(party("c3(1=2);c4(1=1)"), "e"), 4);
         due("a REFUSED one is passed over", orders(party("c3(1/0=0);c4(1=1)"), "e"), 4);
@@ -321,10 +348,10 @@ public final class LawBoundsTest extends Probe {
         return x;
     }
 
-    private static int letterIn(char clause, char factor) {
+    private static int letterIn(char clause, String e) {
         BlazedPath x = allLetters();
         orders(x, clause == 'v' ? "w" : "s");
-        law(x, clause + "" + factor + "(1=1)");
+        law(x, clause + e + "(1=1)");
         switch (clause) {
             case 'c':
                 return orders(x, "2e");
@@ -347,6 +374,7 @@ public final class LawBoundsTest extends Probe {
     private static void letters() {
         String clauses = "cvgned";
         String factors = "kwatqfy";
+        int[] mosts = {240, 60, 20, 20, 20, 10};
         int[][] wants = {
             {1, 4, 3, 20, 0, 0, 6},
             {1, 2, 0, 0, 5, 1, 6},
@@ -355,12 +383,15 @@ public final class LawBoundsTest extends Probe {
             {0, 0, 3, 20, 0, 0, 6},
             {1, 2, 0, 0, 5, 0, 6}};
         for (int i = 0; i < clauses.length(); i++) {
-            sentence("Terms: letters in " + clauses.charAt(i) + " (where they are not told they are 0)");
+            sentence("Promise 4, Terms: letters in " + clauses.charAt(i) + " (where they are not told they are 0)");
             for (int j = 0; j < factors.length(); j++) {
-                due("" + factors.charAt(j), letterIn(clauses.charAt(i), factors.charAt(j)), wants[i][j]);
+                String factor = factors.substring(j, j + 1);
+                due(factor, letterIn(clauses.charAt(i), factor), wants[i][j]);
+                due("2+" + factor, letterIn(clauses.charAt(i), "2+" + factor), Math.min(mosts[i], 2 + wants[i][j]));
+                due("2-" + factor, letterIn(clauses.charAt(i), "2-" + factor), Math.max(0, 2 - wants[i][j]));
             }
         }
-        sentence("Terms: a, t in e of the one that rests");
+        sentence("Promise 4, Terms: a, t in e of the one that rests");
         BlazedPath x = new BlazedPath();
         x.person(1, 2);
         x.person(3, 7);
@@ -370,7 +401,7 @@ public final class LawBoundsTest extends Probe {
         orders(x, ".");
         due("of 1", x.personIs(1, 1), 20 - 2 - 2);
         due("of 3", x.personIs(3, 1), 40 - 7 - 4);
-        sentence("Terms: a, t in c, n of the one AHEAD");
+        sentence("Promise 4, Terms: a, t in c, n of the one AHEAD");
         BlazedPath y = new BlazedPath();
         y.person(1, 2);
         y.person(3, 7);

@@ -1189,11 +1189,15 @@ public final class ModelTest {
 
     /** Draws texts and calls and lets both answer. */
     static final class Runner {
+        // what later calls answer is free
+        private static final int MOST_CALLS = 512;
+
         final Random random;
         final BlazedPath real = new BlazedPath();
         final Model model = new Model();
         final StringBuilder told = new StringBuilder();
         boolean failed = false;
+        int calls = 0;
 
         Runner(long seed) {
             random = new Random(seed);
@@ -1208,6 +1212,10 @@ public final class ModelTest {
         }
 
         void same(String call, long got, long due) {
+            calls++;
+            if (calls > MOST_CALLS) {
+                return;
+            }
             if (told.length() < 60000) {
                 told.append(call).append(" -> ").append(due).append('\n');
             }
@@ -1594,19 +1602,19 @@ public final class ModelTest {
                 }
             }
             for (int place = -1; place <= model.now.path.size(); place++) {
-                for (int what = -1; what < 8; what++) {
+                for (int what = below(9) - 1; what < 8; what += 1 + below(9)) {
                     same("path(" + place + ", " + what + ")", real.path(place, what), model.path(place, what));
                 }
             }
-            for (int what = 99; what < 245; what += 1 + below(5)) {
+            for (int what = 99; what < 245; what += 1 + below(20)) {
                 same("count(" + what + ")", real.count(what), model.count(what));
             }
         }
 
         void run() {
-            for (int i = 0; i < 150 && !failed; i++) {
+            for (int i = 0; i < 150 && !failed && calls < MOST_CALLS; i++) {
                 call();
-                if (once(15) && !failed) {
+                if ((once(40) || calls > MOST_CALLS - 200 && once(20)) && !failed) {
                     int kept = told.length();
                     compareAll();
                     if (!failed) {
@@ -1618,7 +1626,7 @@ public final class ModelTest {
     }
 
     public static void main(String[] args) {
-        int runs = args.length > 0 ? Integer.parseInt(args[0]) : 600;
+        int runs = args.length > 0 ? Integer.parseInt(args[0]) : 1000;
         long first = args.length > 1 ? Long.parseLong(args[1]) : 1;
         for (long seed = first; seed < first + runs && wrong < 5; seed++) {
             new Runner(seed).run();

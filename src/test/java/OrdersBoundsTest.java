@@ -57,7 +57,7 @@ public final class OrdersBoundsTest extends Probe {
     }
 
     private static void whatCanStand() {
-        sentence("Terms: ORDERS, FAULT 1: what can't stand there (the end, too), no blanks");
+        sentence("Promise 10, Terms: ORDERS, FAULT 1: what can't stand there (the end, too), no blanks");
         String acts = "nesw.+obx";
         String digits = "23456789";
         bytesBehind("", acts, digits + "(");
@@ -70,7 +70,7 @@ public final class OrdersBoundsTest extends Probe {
         bytesBehind("(n)", acts, digits + "(");
         bytesBehind("2(n)", acts, digits + "(");
         bytesBehind("((n)", ")", acts + digits + "(");
-        sentence("Terms: a digit 2 to 9 (so many times)");
+        sentence("Promise 10, Terms: a digit 2 to 9 (so many times)");
         for (int n = 2; n <= 9; n++) {
             due(n + "x", acts(n + "x"), n);
             due(n + "(x)", acts(n + "(x)"), n);
@@ -83,7 +83,7 @@ public final class OrdersBoundsTest extends Probe {
         due("two digits", acts("22x"), -1001);
         due("a digit ahead of )", acts("(x2)"), -1003);
         due("a digit at the end", acts("x2"), -1002);
-        sentence("Terms: (ACTS): one at least");
+        sentence("Promise 10, Terms: (ACTS): one at least");
         due("()", acts("()"), -1001);
         due("2()", acts("2()"), -1002);
         due("(())", acts("(())"), -1002);
@@ -96,7 +96,7 @@ public final class OrdersBoundsTest extends Probe {
     }
 
     private static void openAndMany() {
-        sentence("Terms: FAULT 5: a third ( that is open in another one, at it");
+        sentence("Promise 10, Terms: FAULT 5: a third ( that is open in another one, at it");
         due("two", acts("((x))"), 1);
         due("three", acts("(((x)))"), -5002);
         due("three with digits", acts("2(2(2(x)))"), -5005);
@@ -106,7 +106,7 @@ public final class OrdersBoundsTest extends Probe {
         due("a third behind two that are closed", acts("((x)(x(x)))"), -5006);
         due("a third and nothing behind", acts("((("), -5002);
         due("a third can't stand behind two digits", acts("((22(x)))"), -1003);
-        sentence("Terms: 90 in all at most");
+        sentence("Promise 10, Terms: 90 in all at most");
         due("90 of nine times ten", acts("9(9xx)"), 90);
         due("90 by digits", acts("9x9x9x9x9x9x9x9x9x9x"), 90);
         due("90 in ( ) in ( )", acts("9(x9(x))"), 90);
@@ -114,7 +114,7 @@ public final class OrdersBoundsTest extends Probe {
         due("90 by 76 bytes", acts(times("x", 70) + "9x9x2x"), 90);
         due("91 by 77 bytes", acts(times("x", 70) + "9x9x2xx"), -6076);
         due("89 and one", acts("9(9x)8xx"), 90);
-        sentence("Terms: FAULT 6: more than 90, at the first byte of the ACT (or its digit) by which they are");
+        sentence("Promise 10, Terms: FAULT 6: more than 90, at the first byte of the ACT (or its digit) by which they are");
         due("91st", acts("9(9x)9xx"), -6007);
         due("91st by a digit", acts("9(9x)8x2x"), -6007);
         due("a row of digits", acts("9x9x9x9x9x9x9x9x9x9xx"), -6020);
@@ -125,7 +125,7 @@ public final class OrdersBoundsTest extends Probe {
         due("behind an ACT", acts("x9(9xx)"), -6001);
         due("twice 46", acts("2(9(5x)x)"), -6000);
         due("9 times 9 times 9", acts("9(9(9x))"), -6000);
-        sentence("Terms: FAULT 6 is asked when it ends; of an inner one first");
+        sentence("Promise 10, Terms: FAULT 6 is asked when it ends; of an inner one first");
         due("an inner one", acts("2(9(9x9x)x)"), -6002);
         due("an inner one behind an ACT", acts("(xx9(9x9x))"), -6003);
         due("what can't stand inside comes first", acts("9(9(9x)!)"), -1007);
@@ -144,7 +144,7 @@ public final class OrdersBoundsTest extends Probe {
     }
 
     private static void ways() {
-        sentence("Terms: n (y + 1), e (x + 1), s (y - 1), w (x - 1); no CELL outside, and no wrap-around at a side");
+        sentence("Promise 10, Terms: n (y + 1), e (x + 1), s (y - 1), w (x - 1); no CELL outside, and no wrap-around at a side");
         int[] starts = {0, 11, 132, 143, 12, 23, 5, 137, 66};
         for (int cell : starts) {
             int x = cell % 12;
@@ -160,7 +160,7 @@ public final class OrdersBoundsTest extends Probe {
                 due("TIRED", b.personIs(0, 1), wants[way] < 0 ? 0 : 1);
             }
         }
-        sentence("Terms: to the next CELL of THE PATH, or to the one ahead of this: v MINUTES; else nothing in its middle");
+        sentence("Promise 10, Terms: to the next CELL of THE PATH, or to the one ahead of this: v MINUTES; else nothing in its middle");
         BlazedPath x = party("c5(1=1);v3(1=1);n1(1=1)");
         x.start(66);
         orders(x, "enw");
@@ -178,18 +178,18 @@ public final class OrdersBoundsTest extends Probe {
         due("to the end", orders(x, "enw"), 9);
         due("place", x.count(3), 3);
         due("TIRED by cutting alone", x.personIs(0, 1), 3);
-        sentence("Terms: there is a CELL that is no bamboo");
+        sentence("Promise 10, Terms: there is a CELL that is no bamboo");
         BlazedPath b = party("c5(1=1)", forestOf("jb11", "ob11", "b12"));
         due("bamboo", orders(b, "e"), 0);
         due("open", orders(b, "n"), 5);
         due("bamboo", orders(b, "ne"), 0);
         due("CELLS", b.count(2), 2);
-        sentence("Terms: somebody is AHEAD");
+        sentence("Promise 10, Terms: somebody is AHEAD");
         BlazedPath nobody = new BlazedPath();
         due("nobody cuts", orders(nobody, "en"), 0);
         due("CELLS", nobody.count(2), 1);
         due("ACTS that are nothing are done", tried(nobody, "en", 2), 2);
-        sentence("Terms: THE PATH has less than 100");
+        sentence("Promise 10, Terms: THE PATH has less than 100");
         BlazedPath hundred = party("c1(1=1);v1(1=1)");
         for (int i = 0; i < 4; i++) {
             orders(hundred, "9e2en9w2wn");
@@ -209,7 +209,7 @@ public final class OrdersBoundsTest extends Probe {
     }
 
     private static void tiring() {
-        sentence("Terms: the one AHEAD is more TIRED by n (99 at most; both asked ahead of that)");
+        sentence("Promise 10, Terms: the one AHEAD is more TIRED by n (99 at most; both asked ahead of that)");
         BlazedPath x = party("ct+1(1=1);n20(1=1)");
         int[] minutes = {1, 21, 41, 61, 81, 100, 100};
         int[] tired = {20, 40, 60, 80, 99, 99, 99};
@@ -220,7 +220,7 @@ public final class OrdersBoundsTest extends Probe {
         BlazedPath y = party("n1+t(1=1)");
         orders(y, "3e");
         due("n with t of before: 1, 3, 7", y.personIs(0, 1), 7);
-        sentence("Terms: A rest: each told one is less TIRED by e (0 at least)");
+        sentence("Promise 10, Terms: A rest: each told one is less TIRED by e (0 at least)");
         BlazedPath z = new BlazedPath();
         z.person(2, 1);
         z.person(5, 1);
@@ -236,7 +236,7 @@ public final class OrdersBoundsTest extends Probe {
         due("0 at least", z.personIs(5, 1), 0);
         due("10 MINUTES each", z.count(1), 40);
         due("a rest of nobody", orders(new BlazedPath(), "."), 10);
-        sentence("Terms: A change: AHEAD is the next higher told one, or the lowest (no MINUTES; nothing if nobody is AHEAD)");
+        sentence("Promise 10, Terms: A change: AHEAD is the next higher told one, or the lowest (no MINUTES; nothing if nobody is AHEAD)");
         BlazedPath c = new BlazedPath();
         due("nobody", orders(c, "+"), 0);
         due("AHEAD", c.count(5), -2);
@@ -255,7 +255,7 @@ public final class OrdersBoundsTest extends Probe {
     }
 
     private static void marks() {
-        sentence("Terms: A MARK (2 MINUTES), a STICK (1 MINUTE) at the place where THE PARTY is; nothing if it is there");
+        sentence("Promise 10, Terms: A MARK (2 MINUTES), a STICK (1 MINUTE) at the place where THE PARTY is; nothing if it is there");
         BlazedPath x = party("c5(1=1);v3(1=1)");
         due("face 1", orders(x, "o"), 2);
         due("bits", x.path(0, 3), 1);
@@ -270,7 +270,7 @@ public final class OrdersBoundsTest extends Probe {
         orders(x, "eb");
         due("at another place", x.path(1, 3), 2);
         due("no STICK", x.path(1, 4), 0);
-        sentence("Terms: f: 1 if its MARK has the face that is seen so");
+        sentence("Promise 10, Terms: f: 1 if its MARK has the face that is seen so");
         for (int bits = 0; bits < 4; bits++) {
             BlazedPath y = party("c1(1=1);v9-f*5(1=1)");
             orders(y, "e" + ((bits & 1) != 0 ? "o" : "") + ((bits & 2) != 0 ? "b" : "") + "ww");
@@ -280,10 +280,38 @@ public final class OrdersBoundsTest extends Probe {
         }
     }
 
+    private static void eachWalk() {
+        sentence("Promise 10, Terms: v MINUTES (of that CELL): its KIND, its WIDTH, what has GROWN on it, the face that is seen so");
+        BlazedPath x = party("c1(1=1);g3(1=1)", forestOf("tjotrjspjtoj", "b12"));
+        String[] marks = {"b", "", "o", "ob", "b", "o", "", "ob", "b", "o", "", "ob"};
+        orders(x, marks[0]);
+        for (int p = 1; p < 12; p++) {
+            x.days(1);
+            x.width(p % 4 + 1);
+            orders(x, "e" + marks[p]);
+        }
+        x.width(1);
+        law(x, "vk*4+w*3+q/2-f*2(1=1)");
+        x.light(999);
+        for (int p = 10; p >= 0; p--) {
+            due("back onto " + p, orders(x, "w"), walk(x, p, 2));
+        }
+        for (int p = 1; p < 12; p++) {
+            due("out onto " + p, orders(x, "e"), walk(x, p, 1));
+        }
+        due("out and back", tried(x, "2w2e", 0), walk(x, 10, 2) + walk(x, 9, 2) + walk(x, 10, 1) + walk(x, 11, 1));
+    }
+
+    private static int walk(BlazedPath x, int p, int face) {
+        int kind = x.count(100 + x.path(p, 0));
+        int seen = (x.path(p, 3) & face) != 0 ? 1 : 0;
+        return kind * 4 + x.path(p, 2) * 3 + x.path(p, 1) / 2 - seen * 2;
+    }
+
     private static void dark() {
         String[] acts = {"e", "w", ".", "o", "b", "x"};
         int[] minutes = {5, 3, 10, 2, 2, 1};
-        sentence("Terms: An ACT whose MINUTES would take THE MINUTE above LIGHT is not done: it is DARK");
+        sentence("Promise 10, Terms: An ACT whose MINUTES would take THE MINUTE above LIGHT is not done: it is DARK");
         for (int i = 0; i < acts.length; i++) {
             for (int more = -1; more <= 1; more++) {
                 BlazedPath x = party("c5(1=1);v3(1=1);n4(1=1);e1(1=1)");
@@ -303,7 +331,7 @@ public final class OrdersBoundsTest extends Probe {
                 due("STICK", x.path(3, 4), isDone && i == 5 ? 1 : 0);
             }
         }
-        sentence("Terms: nor any behind it");
+        sentence("Promise 10, Terms: nor any behind it");
         BlazedPath x = party("c5(1=1);v3(1=1)");
         x.light(12);
         due("two of three", orders(x, "3e"), 10);
@@ -311,7 +339,7 @@ public final class OrdersBoundsTest extends Probe {
         due("no STICK", x.path(2, 4), 0);
         due("ACTS done", tried(x, "se+xe", 2), 1);
         due("a new text begins anew", orders(x, "x"), 1);
-        sentence("Terms: one of 0 MINUTES, too, if THE MINUTE is above LIGHT already");
+        sentence("Promise 10, Terms: one of 0 MINUTES, too, if THE MINUTE is above LIGHT already");
         BlazedPath y = party("c0(1=1);v0(1=1)");
         y.person(3, 3);
         orders(y, "ee.w");
@@ -329,7 +357,7 @@ public final class OrdersBoundsTest extends Probe {
         y.light(9);
         due("cutting in 0 above LIGHT", tried(y, "e", 1), 0);
         due("is DARK", tried(y, "e", 5), 1);
-        sentence("Terms: not one by which nothing is done");
+        sentence("Promise 10, Terms: not one by which nothing is done");
         y.light(10);
         orders(y, "wweew");
         y.light(600);
@@ -382,6 +410,18 @@ public final class OrdersBoundsTest extends Probe {
         orders(z, "3(9e2en9w2wn)");
         due("27 more", tried(z, "3(9e2en9w2wn)", 1), 27);
         due("at the hundredth", tried(z, "3(9e2en9w2wn)9e", 3), 99);
+        sentence("Promise 11: TRIED on THE PATH as it is: WIDTHS, MARKS, STICKS, what has GROWN");
+        BlazedPath w = party("vw*10+q-f(1=1);g5(1=1)");
+        w.width(4);
+        w.start(0);
+        orders(w, "2obxeobx");
+        w.days(2);
+        w.width(1);
+        due("walking", tried(w, "w", 0), 40 + 10 - 1);
+        due("MARKS and a STICK are there", tried(w, "obxw", 0), 40 + 10 - 1);
+        orders(w, "e");
+        due("marking, walking", tried(w, "obxw", 0), 5 + 40 + 10 - 1);
+        due("nothing is changed", w.path(2, 3) + w.path(2, 4), 0);
     }
 
     private static void turn() {
@@ -426,6 +466,39 @@ public final class OrdersBoundsTest extends Probe {
         due("none of them", turn(y, ".", 0), 0);
         due("none of them", turn(y, ".", 1), 0);
         due("90", turn(y, "9(9s)9s", 0), 90);
+        turnByLight();
+    }
+
+    private static BlazedPath marked(int light) {
+        BlazedPath x = party("c5+k(1=1);v2+k-f(1=1)", forestOf("jtotrjsp5", "j12"));
+        orders(x, "2eb");
+        x.light(light);
+        return x;
+    }
+
+    private static void turnByLight() {
+        sentence("Promise 17: BACK as THE PATH is behind each of the ACTS: MARKS, CELLS walked and cut");
+        String acts = "wbeeobe.w2s9w9eenbwwbe.";
+        String singles = "wbeeobe.wsswwwwwwwwweeeeeeeeeenbwwbe.";
+        for (int light = 10; light <= 150; light++) {
+            int want = -2;
+            int minutes = -2;
+            for (int n = 0; n <= singles.length(); n++) {
+                BlazedPath x = marked(light);
+                int before = x.count(1);
+                String first = singles.substring(0, n);
+                boolean isDark = n > 0 && tried(x, first, 5) == 1;
+                if (n > 0) {
+                    orders(x, first);
+                }
+                if (!isDark && x.count(1) + x.back(0) <= light) {
+                    want = n;
+                    minutes = x.count(1) - before + x.back(0);
+                }
+            }
+            due("ACTS by LIGHT " + light, turn(marked(light), acts, 0), want);
+            due("MINUTES by LIGHT " + light, turn(marked(light), acts, 1), minutes);
+        }
     }
 
     public static void main(String[] args) {
@@ -435,6 +508,7 @@ public final class OrdersBoundsTest extends Probe {
         ways();
         tiring();
         marks();
+        eachWalk();
         dark();
         tried();
         turn();

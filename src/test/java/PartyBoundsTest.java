@@ -34,12 +34,28 @@ public final class PartyBoundsTest extends Probe {
         due("MARK", y.path(0, 3), 0);
         due("STICK", y.path(0, 4), 0);
         due("no place 1", y.path(1, 0), -1);
-        sentence("Terms: START: THE MINUTE, THE DAY, TIRED stay");
+        sentence("Promise 5, Terms: START: THE MINUTE, THE DAY, TIRED stay");
         due("THE MINUTE", y.count(1), 104);
         due("THE DAY", y.count(0), 2);
         due("TIRED", y.personIs(0, 1), 99);
         due("AHEAD", y.count(5), 0);
         due("X", y.count(8), 12);
+        sentence("Promise 5: alone: nothing of THE PATH before is on CELLS that are cut anew");
+        BlazedPath w = party("c1(1=1);g5(1=1)");
+        w.width(3);
+        orders(w, "obxeobxeobx");
+        w.days(1);
+        w.width(2);
+        due("start", w.start(1), true);
+        orders(w, "2w");
+        due("not onto a CELL outside", w.count(2), 2);
+        for (int p = 0; p < 2; p++) {
+            int[] wants = {1 - p, 0, 2, 0, 0};
+            for (int what = 0; what < 5; what++) {
+                due("path(" + p + ", " + what + ")", w.path(p, what), wants[what]);
+            }
+        }
+        sentence("Promise 5: what is KEPT stays");
         due("what is KEPT stays", y.undo(), true);
         due("so", y.count(2), 100);
     }
@@ -75,7 +91,7 @@ public final class PartyBoundsTest extends Probe {
         due("with another ARM", y.person(0, 9), true);
         due("ARM", y.personIs(0, 0), 9);
         due("told once", y.count(4), 1);
-        sentence("Terms: AHEAD: who is told while nobody is AHEAD is (so the first one), till another one is");
+        sentence("Promise 6, Terms: AHEAD: who is told while nobody is AHEAD is (so the first one), till another one is");
         BlazedPath z = new BlazedPath();
         for (int p = 5; p >= 0; p--) {
             due("person", z.person(p, 1 + p), true);
@@ -170,7 +186,7 @@ public final class PartyBoundsTest extends Probe {
             due("seed(" + seed + ")", x.seed(seed), false);
             due("X", x.count(8), 77);
         }
-        sentence("Terms: DRAWS: X = (25173 X + 13849) modulo 65536");
+        sentence("Promise 15, Terms: DRAWS: X = (25173 X + 13849) modulo 65536");
         for (int seed : new int[] {0, 1, 32768, 65535, 51687}) {
             BlazedPath y = party("d1(1=1)", OPEN);
             orders(y, "e");

@@ -10,7 +10,7 @@ public final class PathBoundsTest extends Probe {
             due("THE DAY", x.count(0), fits ? n : 0);
             due("GROWN", x.path(0, 1), fits ? n : 0);
         }
-        sentence("Terms: what has GROWN is more by g (99 at most): the sum is what it truly is more");
+        sentence("Promise 12, Terms: what has GROWN is more by g (99 at most): the sum is what it truly is more");
         BlazedPath x = new BlazedPath();
         law(x, "g20(1=1)");
         int[] sums = {20, 20, 20, 20, 19, 0, 0};
@@ -32,7 +32,7 @@ public final class PathBoundsTest extends Probe {
         due("the fifth", hundred.days(1), 1900);
         due("all is grown over", hundred.days(60), 0);
         due("the last place", hundred.path(99, 1), 99);
-        sentence("Terms: g is asked then: with what has GROWN on that CELL, THE DAY as it is, its KIND and WIDTH");
+        sentence("Promise 12, Terms: g is asked then: with what has GROWN on that CELL, THE DAY as it is, its KIND and WIDTH");
         BlazedPath z = new BlazedPath();
         law(z, "gq+1(1=1)");
         due("1, 2, 4, 8, 16, 20 ..", z.days(6), 31 + 20);
@@ -44,7 +44,8 @@ public final class PathBoundsTest extends Probe {
         k.start(0);
         orders(k, "5e");
         due("by KIND and WIDTH", k.days(1), 3 + 7 + 11 + 19 + 20 + 20);
-        sentence("Terms: THE MINUTE, TIRED are 0 (of all), THE DAY is one more");
+        eachGrows();
+        sentence("Promise 12, Terms: THE MINUTE, TIRED are 0 (of all), THE DAY is one more");
         BlazedPath t = party("c9(1=1);n20(1=1)");
         t.person(5, 5);
         orders(t, "5e+3e");
@@ -61,8 +62,57 @@ public final class PathBoundsTest extends Probe {
         lastDay();
     }
 
+    private static void eachGrows() {
+        sentence("Promise 12, Terms: more by g on each KIND, at each WIDTH, from 0 to 99");
+        for (int kind = 0; kind < 7; kind++) {
+            for (int wide = 1; wide <= 4; wide++) {
+                BlazedPath x = new BlazedPath();
+                x.width(wide);
+                law(x, "gk+w+q%5(1=1)");
+                forest(x, "otjbrsp".charAt(kind) + "12" + "/=".repeat(11));
+                int grown = 0;
+                for (int day = 0; day < 60; day++) {
+                    int after = Math.min(99, grown + kind + wide + grown % 5);
+                    due("KIND " + kind + ", WIDTH " + wide + ", GROWN " + grown, x.days(1), after - grown);
+                    grown = after;
+                }
+                due("GROWN", x.path(0, 1), grown);
+            }
+        }
+        sentence("Promise 12, Terms: each CELL by its own WIDTH and what has GROWN on it, in its order");
+        BlazedPath x = party("gw*2+q/9(1=1)");
+        int[] grown = new int[100];
+        for (int cells = 1; cells < 60; cells++) {
+            int sum = 0;
+            for (int p = 0; p < cells; p++) {
+                int after = Math.min(99, grown[p] + (p == 0 ? 1 : p % 4 + 1) * 2 + grown[p] / 9);
+                sum += after - grown[p];
+                grown[p] = after;
+            }
+            due("a day of " + cells, x.days(1), sum);
+            x.width(cells % 4 + 1);
+            orders(x, cells % 12 == 0 ? "n" : cells / 12 % 2 == 0 ? "e" : "w");
+            due("CELLS", x.count(2), cells + 1);
+        }
+        for (int p = 0; p < 60; p++) {
+            due("GROWN at " + p, x.path(p, 1), grown[p]);
+        }
+        for (int old = 95; old <= 99; old++) {
+            BlazedPath y = party("g19(1=1)");
+            y.days(5);
+            law(y, "g1(1=1)");
+            for (int i = 95; i < old; i++) {
+                y.days(1);
+            }
+            y.width(2);
+            orders(y, "e");
+            law(y, "gw*3+q/9(1=1)");
+            due("GROWN " + old + " beside 0", y.days(1), Math.min(99 - old, 3 + old / 9) + 6);
+        }
+    }
+
     private static void lastDay() {
-        sentence("Terms: THE DAY (9999 at most: then none goes by); Promise 12: as many as can");
+        sentence("Promise 12, Terms: THE DAY (9999 at most: then none goes by); Promise 12: as many as can");
         BlazedPath x = party("c5(1=1);n6(1=1)");
         for (int i = 0; i < 166; i++) {
             x.days(60);
@@ -95,7 +145,7 @@ public final class PathBoundsTest extends Probe {
     }
 
     private static void forks() {
-        sentence("Terms: A FORK: a neighbour of a KIND that looks like a way (open, ridge, stream, a beasts' path)");
+        sentence("Promise 16, Terms: A FORK: a neighbour of a KIND that looks like a way (open, ridge, stream, a beasts' path)");
         String[] kinds = {"o", "t", "j", "b", "r", "s", "p"};
         int[] looks = {1, 0, 0, 0, 1, 1, 1};
         for (int kind = 0; kind < 7; kind++) {
@@ -105,7 +155,7 @@ public final class PathBoundsTest extends Probe {
             due("the next place", x.path(2, 5), 0);
             due("FORKS", x.back(1), looks[kind]);
         }
-        sentence("Terms: not the place ahead of it nor the one behind it, whatever they are");
+        sentence("Promise 16, Terms: not the place ahead of it nor the one behind it, whatever they are");
         BlazedPath row = party("c1(1=1)", forestOf("o12", "j12"));
         orders(row, "9e2e");
         for (int p = 0; p < 12; p++) {
@@ -117,7 +167,7 @@ public final class PathBoundsTest extends Probe {
         orders(end, "3e");
         due("at the end the next CELL is", end.path(3, 5), 1);
         due("not ahead of it", end.path(2, 5), 0);
-        sentence("Terms: or it is on THE PATH, of any KIND");
+        sentence("Promise 16, Terms: or it is on THE PATH, of any KIND");
         BlazedPath z = party("c1(1=1)");
         orders(z, "2en");
         due("no FORK yet", z.path(1, 5), 0);
@@ -127,7 +177,7 @@ public final class PathBoundsTest extends Probe {
         due("the corners are none", z.path(2, 5) + z.path(3, 5), 0);
         orders(z, "w");
         due("beside the first place", z.path(5, 5), 1);
-        sentence("Terms: not the first one: the first place never is one");
+        sentence("Promise 16, Terms: not the first one: the first place never is one");
         due("the first place, THE PATH beside it", z.path(0, 5), 0);
         BlazedPath open = party("c1(1=1)", OPEN);
         orders(open, "2e");
@@ -135,7 +185,7 @@ public final class PathBoundsTest extends Probe {
         due("nor BLIND", open.path(0, 6), 0);
         due("FORKS", open.back(1), 2);
         due("BLIND ones", open.back(2), 2);
-        sentence("Terms: a neighbour (4 ways): none outside, none across a side, none aslant");
+        sentence("Promise 16, Terms: a neighbour (4 ways): none outside, none across a side, none aslant");
         BlazedPath corner = party("c1(1=1)", forestOf("j11o", "oj11", "j12"));
         corner.start(10);
         orders(corner, "e");
@@ -151,7 +201,7 @@ public final class PathBoundsTest extends Probe {
     }
 
     private static void blind() {
-        sentence("Terms: It is BLIND if there is no STICK on it and no MARK with the face 2 on the place ahead of it");
+        sentence("Promise 16, Terms: It is BLIND if there is no STICK on it and no MARK with the face 2 on the place ahead of it");
         for (int stick = 0; stick < 2; stick++) {
             for (int bits = 0; bits < 16; bits++) {
                 BlazedPath x = party("c1(1=1)", forestOf("j12", "j2oj9", "j12"));
@@ -184,7 +234,7 @@ public final class PathBoundsTest extends Probe {
         for (int what = 0; what < 4; what++) {
             due("back(" + what + ") at the first place again", home.back(what), none[what]);
         }
-        sentence("Terms: MINUTES (v of each CELL, f by face 2), from where THE PARTY is: 0 to 99 steps");
+        sentence("Promise 13, Terms: MINUTES (v of each CELL, f by face 2), from where THE PARTY is: 0 to 99 steps");
         BlazedPath hundred = party("v60(1=1)");
         cutHundred(hundred);
         due("99 steps of 60", hundred.back(0), 5940);
@@ -201,7 +251,7 @@ public final class PathBoundsTest extends Probe {
         due("face 2 is", hundred.back(0), 687);
         due("LIGHT does not matter", hundred.light(0), true);
         due("BACK", hundred.back(0), 687);
-        sentence("Terms: FORKS (where THE PARTY is counts, the first place never)");
+        sentence("Promise 13, Terms: FORKS (where THE PARTY is counts, the first place never)");
         BlazedPath x = party("c1(1=1)", OPEN);
         orders(x, "4e");
         for (int place = 4; place >= 0; place--) {
@@ -273,7 +323,7 @@ public final class PathBoundsTest extends Probe {
         due("19", x.safe(0), -3);
         orders(x, "x");
         due("a STICK: 18", x.safe(0), 150094635296999121L);
-        sentence("Terms: tenths less d of each, one times the other: each by its own CELL");
+        sentence("Promise 14, Terms: tenths less d of each, one times the other: each by its own CELL");
         BlazedPath y = party("dk(1=1)", forestOf("jtjrj8", "jororj7", "j12"));
         orders(y, "3e");
         due("above: 9/10 of a thicket, 8/10 of jungle, 6/10 of a ridge", y.safe(0), 54);
@@ -291,7 +341,7 @@ public final class PathBoundsTest extends Probe {
     }
 
     private static void home() {
-        sentence("Terms: HOME: at a BLIND FORK with a DRAW: below d it goes wrong first (30 MINUTES more for that step)");
+        sentence("Promise 15, Terms: HOME: at a BLIND FORK with a DRAW: below d it goes wrong first (30 MINUTES more for that step)");
         for (int d = 0; d <= 10; d++) {
             for (int draw = 0; draw < 10; draw++) {
                 BlazedPath x = party("v4(1=1);d" + d + "(1=1)", OPEN);
@@ -302,7 +352,23 @@ public final class PathBoundsTest extends Probe {
                 due("place", x.count(3), 0);
             }
         }
-        sentence("Terms: no DRAW at what is no BLIND FORK");
+        sentence("Promise 15, Terms: HOME takes v of each CELL that is walked onto, f by face 2");
+        int[] steps = {21, 6, 6, 16, 11};
+        int done = 0;
+        for (int i = 0; i <= steps.length; i++) {
+            for (int less = 0; less < 2; less++) {
+                BlazedPath each = party("vk*5+6-f*5(1=1)", forestOf("tjotrj7", "b12"));
+                orders(each, "2eo2ebe2wb2e");
+                int before = each.count(1);
+                each.light(before + done - less);
+                int fits = i - less;
+                boolean isDone = fits >= 0;
+                due("HOME, " + i + " steps less " + less, each.home(), isDone ? done - (less == 0 ? 0 : steps[i - 1]) : 0);
+                due("place", each.count(3), isDone ? 5 - fits : 5);
+            }
+            done += i < steps.length ? steps[i] : 0;
+        }
+        sentence("Promise 15, Terms: no DRAW at what is no BLIND FORK");
         BlazedPath x = party("v4(1=1);d10(1=1)");
         orders(x, "3e");
         due("no FORK", x.home(), 12);
@@ -319,7 +385,7 @@ public final class PathBoundsTest extends Probe {
     }
 
     private static void homeDark() {
-        sentence("Terms: a step that would take THE MINUTE above LIGHT is not done (its DRAW is), then it is DARK");
+        sentence("Promise 15, Terms: a step that would take THE MINUTE above LIGHT is not done (its DRAW is), then it is DARK");
         int[] lights = {0, 3, 4, 7, 8, 11, 12, 999};
         int[] minutes = {0, 0, 4, 4, 8, 8, 12, 12};
         for (int i = 0; i < lights.length; i++) {
@@ -345,7 +411,7 @@ public final class PathBoundsTest extends Probe {
             due("place", x.count(3), light == 34 ? 0 : 1);
             due("its DRAW is done", x.count(8), 39022);
         }
-        sentence("Terms: a DARK step without a FORK has no DRAW; HOME goes on later");
+        sentence("Promise 15, Terms: a DARK step without a FORK has no DRAW; HOME goes on later");
         BlazedPath y = party("v4(1=1);d10(1=1)");
         orders(y, "2e");
         y.light(5);

@@ -306,6 +306,40 @@ public final class RefusedTest extends Probe {
         onlyEmpties(Probe::lived, "check of none", x -> x.check(0), -1);
     }
 
+    private static void ownMemory() {
+        sentence("Promise 1: All memory is the forest's own: what is done to another object changes nothing");
+        BlazedPath x = lived();
+        BlazedPath other = lived();
+        other.home();
+        other.keep();
+        other.days(60);
+        other.check(0);
+        orders(other, "9e2n.+obx");
+        forest(other, OPEN);
+        law(other, "c1(1=1);v2(1=1)");
+        for (int p = 0; p < 6; p++) {
+            other.person(p, 1 + p);
+        }
+        other.start(77);
+        other.width(4);
+        other.light(9);
+        other.seed(1);
+        orders(other, "9eobx");
+        other.keep();
+        other.feed(-1, -1, -1, -1, -1);
+        due("all stays", one(state(x).equals(state(lived()))), 1);
+        due("a new one is new", one(state(new BlazedPath()).equals(state(new BlazedPath()))), 1);
+        due("no PEOPLE", new BlazedPath().count(4), 0);
+        sentence("An object is used for at most 512 calls: the last of them answers, too");
+        BlazedPath long512 = party("c3(1=1)");
+        // so far a person, a feed and a law
+        for (int call = 4; call <= 510; call++) {
+            due("call " + call, long512.light(call), true);
+        }
+        tell(long512, "2e");
+        due("call 512", long512.orders(2), 6);
+    }
+
     public static void main(String[] args) {
         feedAndForest();
         lawAndOrders();
@@ -315,6 +349,7 @@ public final class RefusedTest extends Probe {
         reckoned();
         texts();
         onlyAsk();
+        ownMemory();
         finish();
     }
 }

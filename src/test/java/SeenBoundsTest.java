@@ -18,7 +18,7 @@ public final class SeenBoundsTest extends Probe {
         tell(whole, "99r99l99f99b99r99l99f99b");
         due("the longest text, 24 bytes", whole.paces(24, 1, 4), (2 * 396 + 1) * (2 * 396 + 1));
         due("empty then", whole.count(7), 0);
-        sentence("Terms: PACES, FAULT 1: what can't stand there (the end, too)");
+        sentence("Promise 22, Terms: PACES, FAULT 1: what can't stand there (the end, too)");
         for (int sign = 0; sign < 256; sign++) {
             boolean isDigit = sign >= '0' && sign <= '9';
             boolean isLetter = "lrfb".indexOf(sign) >= 0;
@@ -29,7 +29,7 @@ public final class SeenBoundsTest extends Probe {
             due("byte " + sign + " behind 55", isLetter ? one(behindTwo > -1000) : behindTwo, isLetter ? 1 : -1002);
             due("byte " + sign + " behind a LEG", paces("5r" + bytes(sign)), sign == '0' ? -3002 : isDigit ? -1003 : -1002);
         }
-        sentence("Terms: a number (one or two digits); FAULT 3: a number 0, at its first digit");
+        sentence("Promise 22, Terms: a number (one or two digits); FAULT 3: a number 0, at its first digit");
         due("1", paces(new BlazedPath(), "1r", 99, 0), 1);
         due("01", paces(new BlazedPath(), "01r", 99, 0), 1);
         due("9", paces(new BlazedPath(), "9r", 99, 0), 9);
@@ -43,7 +43,7 @@ public final class SeenBoundsTest extends Probe {
         due("0 and the end", paces("0"), -3000);
         due("00 and what can't stand there", paces("00!"), -3000);
         due("in a later LEG", paces("1r10l0f"), -3005);
-        sentence("Terms: LEGS (8 at most); FAULT 4: a ninth LEG, at its first digit (if that can stand there)");
+        sentence("Promise 22, Terms: LEGS (8 at most); FAULT 4: a ninth LEG, at its first digit (if that can stand there)");
         due("one", paces("1r"), 0);
         due("seven", paces(new BlazedPath(), times("1r", 7), 99, 0), 7);
         due("eight", paces(new BlazedPath(), times("1r", 8), 99, 0), 8);
@@ -78,7 +78,7 @@ public final class SeenBoundsTest extends Probe {
             boolean fits = what >= 0 && what <= 4;
             due("what " + what, paces(new BlazedPath(), "5r20l30f7b", 10, what), fits ? wants[what] : -1);
         }
-        sentence("Terms: the widest and the narrowest");
+        sentence("Promise 22, Terms: the widest and the narrowest");
         String right = times("99r", 8);
         due("the least", paces(new BlazedPath(), right, 1, 0), 0);
         due("the most", paces(new BlazedPath(), right, 1, 1), 1584);
@@ -89,6 +89,14 @@ public final class SeenBoundsTest extends Probe {
         due("back", paces(new BlazedPath(), times("99b", 8), 1, 3), 0);
         due("one pace", paces(new BlazedPath(), "1f", 2, 4), 1);
         due("one pace", paces(new BlazedPath(), "1f", 1, 4), 3);
+        sentence("Promise 22: each text by itself, whatever was told before");
+        BlazedPath again = new BlazedPath();
+        for (int i = 0; i < 3; i++) {
+            for (int what = 0; what <= 4; what++) {
+                due("what " + what, paces(again, "5r20l30f7b", 10, what), wants[what]);
+                due("a FAULT", paces(again, "99f99r99l99b9", 1, what), -1013);
+            }
+        }
     }
 
     private static void seek() {
@@ -138,7 +146,7 @@ public final class SeenBoundsTest extends Probe {
     }
 
     private static void seekSums() {
-        sentence("Terms: from THE PARTY through all of them (x and y steps); the sum of WEIGHT times STEPS till there");
+        sentence("Promise 23, Terms: from THE PARTY through all of them (x and y steps); the sum of WEIGHT times STEPS till there");
         due("where THE PARTY is", seek(new BlazedPath(), 10, 0, 9), 0);
         due("the same CELL six times", seek(new BlazedPath(), 10, 13, 9, 13, 9, 13, 9, 13, 9, 13, 9, 13, 9), 6 * 9 * 2);
         due("the farthest", seek(new BlazedPath(), 10, 143, 9), 22 * 9);
@@ -149,17 +157,28 @@ public final class SeenBoundsTest extends Probe {
         due("4 to the left at 1, 5 to the right at 9", seek(mid, 0, 1, 1, 10, 9), 1);
         due("sum", seek(mid, 10, 1, 1, 10, 9), 45 + 14);
         due("4 to the left at 9, 5 to the right at 1", seek(mid, 0, 10, 1, 1, 9), 1);
-        sentence("Terms: of like ones the least row");
+        sentence("Promise 23, Terms: of like ones the least row");
         due("left or right", seek(mid, 0, 8, 5, 2, 5), 0);
         due("right or left", seek(mid, 0, 2, 5, 8, 5), 0);
         int[] same = {13, 9, 13, 9, 13, 9, 13, 9, 13, 9, 13, 9};
         for (int i = 0; i < 6; i++) {
             due("all alike, place " + i, seek(new BlazedPath(), i, same), i);
         }
-        sentence("Terms: from THE PARTY, not from the first place; bamboo does not matter");
+        sentence("Promise 23, Terms: from THE PARTY, not from the first place; bamboo does not matter");
         BlazedPath gone = party("c1(1=1)", forestOf("j4b8", "b12"));
         orders(gone, "3e");
         due("3 steps on", seek(gone, 10, 6, 2), 6);
+        sentence("Promise 23: each of n by itself, whatever was told before");
+        BlazedPath again = new BlazedPath();
+        for (int round = 0; round < 2; round++) {
+            due("six", seek(again, 10, 6, 9, 5, 9, 4, 9, 3, 9, 2, 9, 1, 9), 9 * 21);
+            due("one", seek(again, 10, 100, 1), 8 + 4);
+            due("which", seek(again, 0, 100, 1), 0);
+            due("a byte out of bounds", seek(again, 10, 6, 9, 5, 9, 4, 9, 144, 9), -2);
+            due("two", seek(again, 10, 11, 2, 1, 3), 3 + 22);
+            due("which", seek(again, 0, 11, 2, 1, 3), 1);
+            due("no such place", seek(again, 2, 11, 2, 1, 3), -4);
+        }
     }
 
     private static void blazesBytes() {
@@ -218,7 +237,7 @@ public final class SeenBoundsTest extends Probe {
     }
 
     private static void blazesDays() {
-        sentence("Terms: DAYS (0 to 60) behind which it may be so (each DAY g, from 0 on)");
+        sentence("Promise 24, Terms: DAYS (0 to 60) behind which it may be so (each DAY g, from 0 on)");
         BlazedPath x = new BlazedPath();
         law(x, "g1(1=1)");
         int[] grown = {0, 1, 59, 60, 61, 99};
@@ -238,7 +257,17 @@ public final class SeenBoundsTest extends Probe {
         due("between", blazes(x, 10, 2, 1, 81, 98), -2);
         law(x, "gk*2+w+q(1=1)");
         due("by KIND, WIDTH and what has GROWN: 0, 3, 9", blazes(x, 10, 1, 1, 9, 9), 2);
-        sentence("Terms: y as now");
+        law(x, "gk+w*3(1=1)");
+        for (int kind = 0; kind < 7; kind++) {
+            for (int wide = 1; wide <= 4; wide++) {
+                int each = kind + 3 * wide;
+                due("5 DAYS on KIND " + kind + " at WIDTH " + wide, blazes(x, 10, kind, wide, 5 * each, 5 * each), 5 * each > 99 ? -3 : 5);
+                due("the last below 50", blazes(x, 20, kind, wide, 0, 49), 49 / each);
+            }
+        }
+        law(x, "g3+w+q/9(1=1)");
+        due("3 + 2 and a ninth: 0, 5, 10, 16, 22, 29", blazes(x, 10, 2, 2, 29, 29), 5);
+        sentence("Promise 24, Terms: y as now");
         BlazedPath y = new BlazedPath();
         y.days(3);
         law(y, "gy(1=1)");
@@ -251,7 +280,7 @@ public final class SeenBoundsTest extends Probe {
         due("the other one may", blazes(x, 11, 2, 1, 1, 1, 2, 1, 0, 0), 0);
         due("that one not", blazes(x, 10, 2, 1, 1, 1, 2, 1, 0, 0), -2);
         due("that one not", blazes(x, 20, 2, 1, 1, 1, 2, 1, 0, 0), -2);
-        sentence("Terms: CUTTERS: the fewest DAYS: 1 to 8");
+        sentence("Promise 24, Terms: CUTTERS: the fewest DAYS: 1 to 8");
         law(x, "g1(1=1)");
         for (int n = 1; n <= 8; n++) {
             int[] apart = new int[4 * n];
@@ -272,6 +301,16 @@ public final class SeenBoundsTest extends Probe {
         due("they touch", blazes(x, 0, 2, 1, 0, 5, 2, 1, 5, 9), 1);
         due("they don't", blazes(x, 0, 2, 1, 0, 5, 2, 1, 6, 9), 2);
         due("a chain", blazes(x, 0, 2, 1, 0, 5, 2, 1, 4, 9, 2, 1, 8, 12, 2, 1, 11, 15), 2);
+        sentence("Promise 24: each of n by itself, whatever was told before");
+        for (int round = 0; round < 2; round++) {
+            due("four apart", blazes(x, 0, 2, 1, 0, 5, 2, 1, 10, 15, 2, 1, 20, 25, 2, 1, 30, 35), 4);
+            due("one", blazes(x, 0, 2, 1, 40, 45), 1);
+            due("the first DAY", blazes(x, 10, 2, 1, 40, 45), 40);
+            due("no BLAZE 1", blazes(x, 11, 2, 1, 40, 45), -4);
+            due("a byte out of bounds", blazes(x, 0, 2, 1, 0, 5, 2, 5, 10, 15), -3);
+            due("one that can't", blazes(x, 0, 2, 1, 61, 99), -2);
+            due("two that touch", blazes(x, 0, 2, 1, 30, 40, 2, 1, 20, 30), 1);
+        }
     }
 
     private static void sightsText() {
@@ -284,7 +323,7 @@ public final class SeenBoundsTest extends Probe {
             due("sights(" + n + ", 0)", x.sights(n, 0), fits ? plainPlaces(n) : -1);
             due("bytes", x.count(7), fits ? 0 : 40);
         }
-        sentence("Terms: SIGHTS, FAULT 1: what can't stand there");
+        sentence("Promise 25, Terms: SIGHTS, FAULT 1: what can't stand there");
         for (int sign = 0; sign < 256; sign++) {
             boolean fits = sign == 'm' || sign == 'f' || sign == '2' || sign == '.';
             due("byte " + sign, sights(new BlazedPath(), bytes(sign), 0), !fits ? -1000 : sign == '.' ? 1 : 0);
@@ -309,7 +348,7 @@ public final class SeenBoundsTest extends Probe {
     }
 
     private static void sightsPlaces() {
-        sentence("Terms: m (a MARK with face 2, no FORK), f (a FORK, no such MARK), 2 (both), a dot (neither)");
+        sentence("Promise 25, Terms: m (a MARK with face 2, no FORK), f (a FORK, no such MARK), 2 (both), a dot (neither)");
         for (int bits = 0; bits < 4; bits++) {
             String marks = ((bits & 1) != 0 ? "o" : "") + ((bits & 2) != 0 ? "b" : "");
             BlazedPath x = party("c1(1=1)", forestOf("j12", "j2oj9", "j12"));
@@ -318,7 +357,7 @@ public final class SeenBoundsTest extends Probe {
             due("a FORK with MARK " + bits, sights(x, (bits & 2) != 0 ? "2" : "f", 1), 2);
             due("both, coming back", sights(x, (bits & 2) != 0 ? "2m." : "f..", 1), 2);
         }
-        sentence("Terms: the first place is never a FORK; it may be the last that was seen");
+        sentence("Promise 25, Terms: the first place is never a FORK; it may be the last that was seen");
         BlazedPath open = party("c1(1=1)", OPEN);
         orders(open, "3e");
         due("fff.", sights(open, "fff.", 0), 1);
@@ -330,10 +369,10 @@ public final class SeenBoundsTest extends Probe {
         due("ff: the lowest", sights(open, "ff", 1), 2);
         due("the others on the places ahead of it, not behind", sights(open, ".f", 0), 0);
         due("f.", sights(open, "f.", 1), 1);
-        sentence("Terms: PLACES of THE PATH, wherever THE PARTY is");
+        sentence("Promise 25, Terms: PLACES of THE PATH, wherever THE PARTY is");
         orders(open, "3w");
         due("at the first place", sights(open, "fff.", 1), 3);
-        sentence("Terms: of a hundred: the highest; 20 signs");
+        sentence("Promise 25, Terms: of a hundred: the highest; 20 signs");
         BlazedPath y = party("c1(1=1)");
         cutHundred(y);
         due("the last", sights(y, "f", 2), 99);
