@@ -52,7 +52,7 @@ public final class ForestBoundsTest extends Probe {
         due("bytes", n.count(7), 0);
         due("undo", n.undo(), false);
         due("check(0)", n.check(0), -1);
-        sentence("The constants: NONE = -1");
+        sentence("Promises 1 to 31, the constants: NONE = -1: There is none");
         due("NONE", BlazedPath.NONE, -1);
     }
 

@@ -330,7 +330,7 @@ public final class RefusedTest extends Probe {
         due("all stays", one(state(x).equals(state(lived()))), 1);
         due("a new one is new", one(state(new BlazedPath()).equals(state(new BlazedPath()))), 1);
         due("no PEOPLE", new BlazedPath().count(4), 0);
-        sentence("An object is used for at most 512 calls: the last of them answers, too");
+        sentence("Promises 1 to 31: An object is used for at most 512 calls: the last of them answers, too");
         BlazedPath long512 = party("c3(1=1)");
         // so far a person, a feed and a law
         for (int call = 4; call <= 510; call++) {
